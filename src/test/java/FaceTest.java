@@ -17,11 +17,13 @@ public final class FaceTest {
     }
 
     private static void constants() {
+        CHECKS.sentence("NONE = -1; BAD = -2");
         CHECKS.due("NONE", MethodBook.NONE, -1);
         CHECKS.due("BAD", MethodBook.BAD, -2);
     }
 
     private static void members() {
+        CHECKS.sentence("The public face");
         Class<MethodBook> face = MethodBook.class;
         CHECKS.due("public and final", face.getModifiers(), Modifier.PUBLIC | Modifier.FINAL);
         Set<String> due = new TreeSet<>(Arrays.asList(

@@ -3,285 +3,324 @@ public final class LookUpTest {
     private static final Checks CHECKS = new Checks();
 
     public static void main(String[] args) {
-        found();
-        notFound();
-        bad();
+        afterHowMany();
+        noneOrBad();
         noValue();
-        dictionaries();
-        afterChanges();
-        longWays();
         foundNoMore();
-        above();
-        aboveAfterChanges();
+        method();
+        noMethod();
+        where();
+        nowhere();
+        staysFound();
+        classAbove();
+        asItIsNow();
+        nilIfItHasNone();
+        asLookUp();
+        aboveLongWays();
+        nothingWasFound();
         CHECKS.end();
     }
 
-    /** Classes 1, 2, 3, each above the one before, with the dictionaries 11, 12, 13 of two methods each. */
-    private static MethodBook threeClasses() {
-        MethodBook x = new MethodBook();
-        for (int k = 1; k <= 3; k++) {
-            x.make(k, 2, true);
-            x.make(k + 10, 4, true);
-            x.put(k, 1, 2 * (k + 10));
-            x.put(k + 10, 0, 71);
-            x.put(k + 10, 1, 10 * k + 1);
-            x.put(k + 10, 2, 80 + 2 * k + 1);
-            x.put(k + 10, 3, 10 * k + 3);
-        }
-        x.put(1, 0, 4);
-        x.put(2, 0, 6);
-        return x;
-    }
-
     private static void dueFound(String what, MethodBook x, int method, int where) {
-        CHECKS.due("7: method, " + what, x.method(), method);
-        CHECKS.due("8: where, " + what, x.where(), where);
+        CHECKS.due("method, " + what, x.method(), method);
+        CHECKS.due("where, " + what, x.where(), where);
     }
 
-    private static void found() {
-        MethodBook x = threeClasses();
-        CHECKS.due("6: found at once", x.lookUp(2, 71), 0);
-        dueFound("at once", x, 11, 2);
-        CHECKS.due("6: in the second place", x.lookUp(2, 83), 0);
-        dueFound("in the second place", x, 13, 2);
-        CHECKS.due("6: after one class", x.lookUp(2, 85), 1);
-        dueFound("after one", x, 23, 4);
-        CHECKS.due("6: after two classes", x.lookUp(2, 87), 2);
-        dueFound("after two", x, 33, 6);
-        CHECKS.due("6: from the second", x.lookUp(4, 71), 0);
-        dueFound("from the second", x, 21, 4);
-        x.put(13, 2, 26);
-        x.put(13, 3, 24);
-        CHECKS.due("6: a selector that is an object", x.lookUp(2, 26), 2);
-        dueFound("a method that is an object", x, 24, 6);
-        x.put(13, 3, 0);
-        CHECKS.due("6: a method that is nil", x.lookUp(2, 26), 2);
-        dueFound("a method that is nil", x, 0, 6);
-    }
-
-    private static void notFound() {
-        MethodBook x = threeClasses();
-        CHECKS.due("6: from nil", x.lookUp(0, 71), MethodBook.NONE);
-        CHECKS.due("6: no such selector", x.lookUp(2, 91), MethodBook.NONE);
-        dueFound("nothing", x, 0, 0);
-        CHECKS.due("6: a class below is not looked at", x.lookUp(4, 83), MethodBook.NONE);
-        CHECKS.due("6: a method is no selector", x.lookUp(2, 11), MethodBook.NONE);
-        CHECKS.due("6: nil is no selector here", x.lookUp(2, 0), MethodBook.NONE);
+    private static void afterHowMany() {
+        CHECKS.sentence("Promise 6: Answers after how many classes it was found (0 when at once)");
+        MethodBook x = Books.threeClasses();
+        CHECKS.due("at once", x.lookUp(2, 71), 0);
+        CHECKS.due("at once, in the second place", x.lookUp(2, 83), 0);
+        CHECKS.due("after one", x.lookUp(2, 85), 1);
+        CHECKS.due("after two", x.lookUp(2, 87), 2);
+        CHECKS.due("after one, from the second", x.lookUp(4, 87), 1);
+        CHECKS.due("at once, from the third", x.lookUp(6, 87), 0);
         x.put(2, 1, 0);
-        CHECKS.due("6: past a class of no dictionary", x.lookUp(2, 87), 2);
-        x.put(1, 0, 0);
-        CHECKS.due("6: up to nil", x.lookUp(2, 87), MethodBook.NONE);
+        CHECKS.due("a class of no dictionary counts", x.lookUp(2, 87), 2);
+        CHECKS.due("after 99", Books.longWay(100).lookUp(2, 5), 99);
     }
 
-    private static void bad() {
-        MethodBook x = threeClasses();
-        x.make(20, 2, false);
-        x.make(21, 1, true);
-        x.make(22, 0, true);
-        for (int from : new int[] {1, 5, -1, 40, 42, 44}) {
-            CHECKS.due("6: from no class, " + from, x.lookUp(from, 71), MethodBook.BAD);
-            dueFound("bad", x, 0, 0);
-        }
-        for (int above : new int[] {1, 5, -1, 40, 42, 44}) {
-            x.put(2, 0, above);
-            CHECKS.due("6: no class above, " + above, x.lookUp(2, 91), MethodBook.BAD);
-            CHECKS.due("6: found below it", x.lookUp(2, 85), 1);
-        }
-        x.put(2, 0, 6);
-        for (int dictionary : new int[] {1, -5, 40}) {
-            x.put(2, 1, dictionary);
-            CHECKS.due("6: no dictionary, " + dictionary, x.lookUp(2, 87), MethodBook.BAD);
-            CHECKS.due("6: found below it", x.lookUp(2, 83), 0);
-            CHECKS.due("6: found above it", x.lookUp(6, 87), 0);
-        }
-        for (int dictionary : new int[] {0, 42, 44}) {
-            x.put(2, 1, dictionary);
-            CHECKS.due("6: a dictionary of nothing, " + dictionary, x.lookUp(2, 87), 2);
-        }
+    private static void noneOrBad() {
+        CHECKS.sentence("Promise 6: NONE when nothing is found, BAD when it is bad");
+        MethodBook x = Books.threeClasses();
+        CHECKS.due("from nil", x.lookUp(0, 71), MethodBook.NONE);
+        CHECKS.due("up to nil", x.lookUp(2, 91), MethodBook.NONE);
+        x.put(3, 0, 5);
+        CHECKS.due("up to a number", x.lookUp(2, 91), MethodBook.BAD);
+        x.put(3, 0, 0);
+        x.put(3, 1, 5);
+        CHECKS.due("up to a bad dictionary", x.lookUp(2, 91), MethodBook.BAD);
+        CHECKS.due("from a number", x.lookUp(5, 91), MethodBook.BAD);
+        CHECKS.due("past a 100th class", Books.longWay(101).lookUp(2, 5), MethodBook.BAD);
     }
 
     private static void noValue() {
-        MethodBook x = threeClasses();
-        for (int v : new int[] {8, 800, 802, -2, -4, Integer.MIN_VALUE, Integer.MAX_VALUE - 1}) {
-            CHECKS.due("6: from no value " + v, x.lookUp(v, 71), MethodBook.BAD);
-            CHECKS.due("6: a selector of no value " + v, x.lookUp(2, v), MethodBook.BAD);
-            CHECKS.due("6: from nil, a selector of no value " + v, x.lookUp(0, v), MethodBook.BAD);
-            dueFound("no value", x, 0, 0);
+        CHECKS.sentence("Promise 6: or one of them is no value");
+        for (int v : Books.NO_VALUES) {
+            MethodBook x = Books.threeClasses();
+            CHECKS.due("from " + v, x.lookUp(v, 71), MethodBook.BAD);
+            CHECKS.due("of " + v, x.lookUp(2, v), MethodBook.BAD);
+            CHECKS.due("of " + v + ", from nil", x.lookUp(0, v), MethodBook.BAD);
+            CHECKS.due("both " + v, x.lookUp(v, v), MethodBook.BAD);
+            CHECKS.due("from " + v + ", nil", x.lookUp(v, 0), MethodBook.BAD);
         }
-        CHECKS.due("6: the least number", x.lookUp(2, -2147483647), MethodBook.NONE);
-        CHECKS.due("6: the greatest number", x.lookUp(2, Integer.MAX_VALUE), MethodBook.NONE);
-    }
-
-    private static void dictionaries() {
-        MethodBook x = new MethodBook();
-        x.make(1, 2, true);
-        x.make(2, 5, true);
-        x.put(1, 1, 4);
-        x.put(2, 0, 5);
-        x.put(2, 1, 11);
-        x.put(2, 2, 5);
-        x.put(2, 3, 13);
-        x.put(2, 4, 17);
-        CHECKS.due("6: the first of two", x.lookUp(2, 5), 0);
-        dueFound("the first of two", x, 11, 2);
-        CHECKS.due("6: a last single one is nothing", x.lookUp(2, 17), MethodBook.NONE);
-        x.put(1, 1, 2);
-        CHECKS.due("6: its own dictionary", x.lookUp(2, 0), 0);
-        dueFound("its own dictionary", x, 2, 2);
-        x.make(3, 40, true);
-        x.put(1, 1, 6);
-        for (int i = 0; i < 40; i++) {
-            x.put(3, i, 2 * i + 101);
-        }
-        for (int i = 0; i < 40; i++) {
-            CHECKS.due("6: a full dictionary, " + i, x.lookUp(2, 2 * i + 101), i % 2 == 0 ? 0 : MethodBook.NONE);
-            CHECKS.due("7: its method, " + i, x.method(), i % 2 == 0 ? 2 * i + 103 : 0);
-        }
-    }
-
-    private static void afterChanges() {
-        MethodBook x = threeClasses();
-        x.lookUp(2, 71);
-        x.put(11, 1, 99);
-        dueFound("what was found stays when its field changes", x, 11, 2);
-        x.become(1, 2);
-        dueFound("and when places change", x, 11, 2);
-        x.become(1, 2);
-        x.make(1, 0, true);
-        dueFound("and when the class is made anew", x, 11, 2);
-        CHECKS.due("6: now there is no class", x.lookUp(2, 71), MethodBook.BAD);
-        x = threeClasses();
-        x.lookUp(2, 71);
-        x.put(11, 1, 99);
-        x.lookUp(2, 71);
-        dueFound("the new method", x, 99, 2);
-        x.put(11, 0, 73);
-        CHECKS.due("6: the selector is gone", x.lookUp(2, 71), 1);
-        x.become(11, 12);
-        CHECKS.due("6: the dictionaries changed places", x.lookUp(2, 71), 0);
-        dueFound("of the other dictionary", x, 21, 2);
-        x.make(12, 4, true);
-        CHECKS.due("6: the dictionary is made anew", x.lookUp(2, 71), 2);
-    }
-
-    /** The classes 1 to count, each above the one before; the last has a dictionary, object 400. */
-    private static MethodBook longWay(int count) {
-        MethodBook x = new MethodBook();
-        x.make(400, 2, true);
-        x.put(400, 0, 5);
-        x.put(400, 1, 7);
-        for (int k = 1; k <= count; k++) {
+        for (int k : new int[] {4, 14, 399, 400}) {
+            MethodBook x = Books.threeClasses();
+            CHECKS.due("from one not made, " + k, x.lookUp(2 * k, 71), MethodBook.BAD);
+            CHECKS.due("of one not made, " + k, x.lookUp(2, 2 * k), MethodBook.BAD);
+            CHECKS.due("of one not made, from nil, " + k, x.lookUp(0, 2 * k), MethodBook.BAD);
             x.make(k, 2, true);
-            if (k > 1) {
-                x.put(k - 1, 0, 2 * k);
-            }
+            CHECKS.due("from it when it is made", x.lookUp(2 * k, 71), MethodBook.NONE);
+            CHECKS.due("of it when it is made", x.lookUp(2, 2 * k), MethodBook.NONE);
+            CHECKS.due("of it when it is made, from nil", x.lookUp(0, 2 * k), MethodBook.NONE);
         }
-        x.put(count, 1, 800);
-        return x;
-    }
-
-    private static void longWays() {
-        MethodBook x = longWay(101);
-        CHECKS.due("6: in the 100th class", x.lookUp(4, 5), 99);
-        dueFound("in the 100th class", x, 7, 202);
-        CHECKS.due("6: past the 100th class, nil", x.lookUp(4, 9), MethodBook.NONE);
-        CHECKS.due("6: in the 101st class", x.lookUp(2, 5), MethodBook.BAD);
-        dueFound("in the 101st class", x, 0, 0);
-        CHECKS.due("6: past the 101st class", x.lookUp(2, 9), MethodBook.BAD);
-        x.put(101, 0, 9);
-        CHECKS.due("6: past the 100th class, a number", x.lookUp(4, 9), MethodBook.BAD);
-        x.put(101, 0, 4);
-        CHECKS.due("6: in a ring", x.lookUp(4, 9), MethodBook.BAD);
-        x.put(1, 0, 2);
-        CHECKS.due("6: in a ring of one", x.lookUp(2, 9), MethodBook.BAD);
-        x.lookUp(202, 5);
-        x.put(101, 0, 2);
-        CHECKS.due("9: above, in a ring of one", x.above(9), MethodBook.BAD);
+        for (int v : Books.NUMBERS) {
+            CHECKS.due("of the number " + v, Books.longWay(3).lookUp(2, v), MethodBook.NONE);
+        }
     }
 
     private static void foundNoMore() {
-        MethodBook x = threeClasses();
-        int[][] looked = {{2, 91}, {0, 71}, {3, 71}, {802, 71}, {2, 802}};
+        CHECKS.sentence("Promise 6: What was found before is found no more, in any case");
+        MethodBook x = Books.threeClasses();
+        x.make(20, 2, true);
+        x.put(20, 1, 7);
+        int[][] looked = {
+            {2, 91}, {0, 71}, {3, 71}, {40, 71}, {802, 71}, {2, 802}, {-2, 71}, {2, -2}, {800, 71}, {2, 800},
+            {0, 802}, {802, 802}};
         for (int[] pair : looked) {
-            x.lookUp(2, 71);
-            x.lookUp(pair[0], pair[1]);
-            dueFound("no more, after " + pair[0] + ", " + pair[1], x, 0, 0);
-            CHECKS.due("9: above nothing", x.above(71), MethodBook.NONE);
+            String after = "after " + pair[0] + ", " + pair[1];
+            CHECKS.due("found", x.lookUp(2, 71), 0);
+            dueFound("found", x, 11, 2);
+            CHECKS.due("not found, " + after, x.lookUp(pair[0], pair[1]) < 0, true);
+            dueFound(after, x, 0, 0);
+            CHECKS.due("above, " + after, x.above(71), MethodBook.NONE);
         }
         x.lookUp(2, 71);
+        x.lookUp(4, 85);
+        dueFound("another was found", x, 23, 4);
+        CHECKS.due("above the other", x.above(85), MethodBook.NONE);
+    }
+
+    private static void method() {
+        CHECKS.sentence("Promise 7: The method that was found by the latest lookUp(), a value");
+        MethodBook x = Books.threeClasses();
+        for (int method : new int[] {0, 1, -1, -2147483647, 2147483647, 2, 6, 22, 26}) {
+            x.put(12, 3, method);
+            x.lookUp(2, 71);
+            CHECKS.due("the one before", x.method(), 11);
+            CHECKS.due("lookUp", x.lookUp(2, 85), 1);
+            CHECKS.due("method " + method, x.method(), method);
+            CHECKS.due("once more", x.method(), method);
+            CHECKS.due("where it is", x.where(), 4);
+        }
+    }
+
+    private static void noMethod() {
+        CHECKS.sentence("Promise 7: 0 when nothing was");
+        CHECKS.due("in a new book", new MethodBook().method(), 0);
+        MethodBook x = Books.threeClasses();
+        CHECKS.due("before any lookUp", x.method(), 0);
+        x.lookUp(2, 71);
+        x.lookUp(2, 91);
+        CHECKS.due("after none", x.method(), 0);
+        x.lookUp(2, 71);
+        x.lookUp(3, 71);
+        CHECKS.due("after bad", x.method(), 0);
+        x.lookUp(2, 71);
+        x.lookUp(2, 802);
+        CHECKS.due("after no value", x.method(), 0);
+    }
+
+    private static void where() {
+        CHECKS.sentence("Promise 8: The class in which it was found, a value");
+        MethodBook x = Books.threeClasses();
+        x.lookUp(2, 83);
+        CHECKS.due("in the first", x.where(), 2);
+        x.lookUp(2, 85);
+        CHECKS.due("in the second", x.where(), 4);
+        x.lookUp(2, 87);
+        CHECKS.due("in the third", x.where(), 6);
+        CHECKS.due("once more", x.where(), 6);
+        x.put(2, 1, 22);
+        x.lookUp(4, 83);
+        CHECKS.due("not in the other class of this dictionary", x.where(), 4);
+        x = new MethodBook();
+        x.make(400, 2, true);
+        x.put(400, 1, 800);
+        x.lookUp(800, 0);
+        CHECKS.due("in object 400", x.where(), 800);
+        CHECKS.due("its method", x.method(), 800);
+    }
+
+    private static void nowhere() {
+        CHECKS.sentence("Promise 8: 0 when nothing was");
+        CHECKS.due("in a new book", new MethodBook().where(), 0);
+        MethodBook x = Books.threeClasses();
+        CHECKS.due("before any lookUp", x.where(), 0);
+        x.lookUp(2, 71);
+        x.lookUp(2, 91);
+        CHECKS.due("after none", x.where(), 0);
+        x.lookUp(2, 71);
+        x.lookUp(3, 71);
+        CHECKS.due("after bad", x.where(), 0);
+        x.lookUp(2, 71);
+        x.lookUp(802, 71);
+        CHECKS.due("after no value", x.where(), 0);
+    }
+
+    private static void staysFound() {
+        CHECKS.sentence("Promises 7 and 8: by the latest lookUp() (other calls leave it)");
+        MethodBook x = Books.threeClasses();
+        x.lookUp(2, 71);
+        x.put(11, 1, 99);
+        dueFound("its field changed", x, 11, 2);
+        x.put(1, 1, 0);
+        dueFound("the dictionary is gone", x, 11, 2);
+        x.become(1, 2);
+        dueFound("places changed", x, 11, 2);
+        x.make(11, 0, false);
+        dueFound("the dictionary is made anew", x, 11, 2);
+        x.make(1, 0, true);
+        dueFound("the class is made anew", x, 11, 2);
         x.make(0, 0, true);
         x.put(1, 0, 802);
         x.become(1, 99);
+        dueFound("calls were refused", x, 11, 2);
         x.senders(71);
         x.users(11);
         x.inherits(2, 4);
         x.get(1, 1);
         x.size(1);
-        dueFound("still, after other calls", x, 11, 2);
+        dueFound("calls that only answer", x, 11, 2);
     }
 
-    private static void above() {
-        MethodBook x = threeClasses();
-        CHECKS.due("9: nothing was looked up", x.above(71), MethodBook.NONE);
-        CHECKS.due("9: nothing was found, a selector of no value", x.above(802), MethodBook.NONE);
+    private static void classAbove() {
+        CHECKS.sentence("Promise 9: Looks up from the class above the one in which it was found");
+        MethodBook x = Books.threeClasses();
         x.lookUp(2, 71);
-        CHECKS.due("9: above the first", x.above(71), 0);
+        CHECKS.due("above the first", x.above(71), 0);
         dueFound("above the first", x, 21, 4);
-        CHECKS.due("9: above the second", x.above(71), 0);
-        dueFound("above the second", x, 31, 6);
-        CHECKS.due("9: above the last", x.above(71), MethodBook.NONE);
-        dueFound("above the last", x, 0, 0);
-        x.lookUp(2, 71);
-        CHECKS.due("9: another selector", x.above(87), 1);
-        dueFound("another selector", x, 33, 6);
         x.lookUp(2, 85);
-        CHECKS.due("9: above where it was found", x.above(71), 0);
+        CHECKS.due("above where it was found, not above where it began", x.above(71), 0);
         dueFound("above where it was found", x, 31, 6);
         x.lookUp(2, 71);
-        CHECKS.due("9: a selector below alone", x.above(83), MethodBook.NONE);
+        CHECKS.due("another selector", x.above(87), 1);
+        dueFound("another selector", x, 33, 6);
         x.lookUp(2, 71);
-        CHECKS.due("9: a selector of no value", x.above(802), MethodBook.BAD);
-        dueFound("a selector of no value", x, 0, 0);
+        CHECKS.due("one of the class itself alone", x.above(83), MethodBook.NONE);
         x.lookUp(6, 71);
-        CHECKS.due("9: above the last, a selector of no value", x.above(800), MethodBook.BAD);
+        CHECKS.due("above the last", x.above(71), MethodBook.NONE);
+        x.put(3, 0, 6);
+        x.lookUp(6, 71);
+        CHECKS.due("its own class above", x.above(71), 0);
+        dueFound("its own class above", x, 31, 6);
         x.put(12, 1, 0);
         x.lookUp(4, 71);
-        CHECKS.due("9: above where nil was found", x.above(71), 0);
+        CHECKS.due("above where nil was found", x.above(71), 0);
         dueFound("above where nil was found", x, 31, 6);
     }
 
-    private static void aboveAfterChanges() {
-        MethodBook x = threeClasses();
+    private static void asItIsNow() {
+        CHECKS.sentence("Promise 9: (field 0 of that as it is now");
+        MethodBook x = Books.threeClasses();
         x.lookUp(2, 71);
         x.put(1, 0, 6);
-        CHECKS.due("9: field 0 as it is now", x.above(71), 0);
-        dueFound("field 0 as it is now", x, 31, 6);
+        CHECKS.due("put since", x.above(71), 0);
+        dueFound("put since", x, 31, 6);
+        x.lookUp(2, 71);
+        x.put(1, 0, 0);
+        CHECKS.due("nil since", x.above(71), MethodBook.NONE);
         x.lookUp(2, 71);
         x.put(1, 0, 7);
-        CHECKS.due("9: a number", x.above(71), MethodBook.BAD);
-        int[] counts = {0, 1, 1, 2};
-        boolean[] kinds = {true, true, false, false};
-        for (int i = 0; i < counts.length; i++) {
-            x = threeClasses();
-            x.lookUp(2, 71);
-            x.make(1, counts[i], kinds[i]);
-            CHECKS.due("9: the class is made anew, " + i, x.above(71), MethodBook.NONE);
-        }
-        x = threeClasses();
+        CHECKS.due("a number since", x.above(71), MethodBook.BAD);
         x.lookUp(2, 71);
-        x.make(1, 1, true);
-        x.put(1, 0, 6);
-        CHECKS.due("9: the class has one field", x.above(71), 0);
-        dueFound("the class has one field", x, 31, 6);
-        x = threeClasses();
+        x.put(1, 0, 22);
+        CHECKS.due("a dictionary since", x.above(71), MethodBook.BAD);
+        x = Books.threeClasses();
         x.lookUp(2, 71);
         x.become(1, 3);
-        CHECKS.due("9: the class changed places", x.above(71), 0);
-        dueFound("the class changed places", x, 21, 4);
-        x = threeClasses();
+        CHECKS.due("the class changed places since", x.above(71), 0);
+        dueFound("the class changed places since", x, 21, 4);
+        x = Books.threeClasses();
         x.lookUp(2, 71);
         x.become(2, 3);
-        CHECKS.due("9: the class above changed places", x.above(71), 0);
-        dueFound("the class above changed places", x, 31, 6);
+        CHECKS.due("the class above changed places since", x.above(71), 0);
+        dueFound("the class above changed places since", x, 31, 6);
+        x = Books.threeClasses();
+        x.lookUp(2, 71);
+        x.make(2, 2, true);
+        CHECKS.due("the class above made anew since", x.above(71), MethodBook.NONE);
+    }
+
+    private static void nilIfItHasNone() {
+        CHECKS.sentence("Promise 9: nil if it has none)");
+        int[] counts = {0, 1, 2, 40};
+        for (int n : counts) {
+            for (boolean kind : new boolean[] {true, false}) {
+                MethodBook x = Books.threeClasses();
+                x.lookUp(2, 71);
+                x.make(1, n, kind);
+                CHECKS.due("made anew, " + n + ", " + kind, x.above(71), MethodBook.NONE);
+                dueFound("made anew, " + n + ", " + kind, x, 0, 0);
+                x = Books.threeClasses();
+                x.lookUp(2, 71);
+                x.make(1, n, kind);
+                boolean hasOne = x.put(1, 0, 6);
+                CHECKS.due("with field 0 put, " + n + ", " + kind, x.above(71), hasOne ? 0 : MethodBook.NONE);
+                dueFound("with field 0 put, " + n + ", " + kind, x, hasOne ? 31 : 0, hasOne ? 6 : 0);
+            }
+        }
+    }
+
+    private static void asLookUp() {
+        CHECKS.sentence("Promise 9: as lookUp()");
+        MethodBook x = Books.threeClasses();
+        x.lookUp(2, 71);
+        x.above(71);
+        CHECKS.due("above what above() found", x.above(71), 0);
+        dueFound("above what above() found", x, 31, 6);
+        CHECKS.due("nothing is found", x.above(71), MethodBook.NONE);
+        dueFound("nothing is found", x, 0, 0);
+        CHECKS.due("after nothing was found", x.above(71), MethodBook.NONE);
+        for (int v : Books.NO_VALUES) {
+            x.lookUp(2, 71);
+            CHECKS.due("of no value " + v, x.above(v), MethodBook.BAD);
+            dueFound("of no value " + v, x, 0, 0);
+            x.lookUp(6, 71);
+            CHECKS.due("of no value " + v + ", from nil", x.above(v), MethodBook.BAD);
+            dueFound("of no value " + v + ", from nil", x, 0, 0);
+        }
+        x.put(2, 1, 5);
+        x.lookUp(2, 71);
+        CHECKS.due("a bad dictionary", x.above(71), MethodBook.BAD);
+        dueFound("a bad dictionary", x, 0, 0);
+    }
+
+    private static void aboveLongWays() {
+        CHECKS.sentence("Promise 9: as lookUp() (the class above is the first of at most 100)");
+        for (int count : new int[] {100, 101, 102}) {
+            MethodBook x = Books.longWay(count);
+            x.put(1, 1, 800);
+            CHECKS.due("at once", x.lookUp(2, 5), 0);
+            CHECKS.due("above, the last of " + count, x.above(5), count <= 101 ? count - 2 : MethodBook.BAD);
+            x.lookUp(2, 5);
+            CHECKS.due("above, none of " + count, x.above(9), count <= 101 ? MethodBook.NONE : MethodBook.BAD);
+        }
+    }
+
+    private static void nothingWasFound() {
+        CHECKS.sentence("Promise 9: NONE when nothing was found");
+        MethodBook x = new MethodBook();
+        x.make(1, 2, true);
+        for (int v : new int[] {0, 2, 5, 4, 802, -2, Integer.MIN_VALUE}) {
+            CHECKS.due("in a new book, " + v, x.above(v), MethodBook.NONE);
+            x.lookUp(2, 5);
+            CHECKS.due("after none, " + v, x.above(v), MethodBook.NONE);
+            x.lookUp(3, 5);
+            CHECKS.due("after bad, " + v, x.above(v), MethodBook.NONE);
+            x.lookUp(802, 5);
+            CHECKS.due("after no value, " + v, x.above(v), MethodBook.NONE);
+            dueFound("nothing", x, 0, 0);
+        }
     }
 }

@@ -20,6 +20,7 @@ public final class MixedRunsTest {
     }
 
     public static void main(String[] args) {
+        CHECKS.sentence("Promises 1 to 13");
         for (int run = 0; run < RUNS; run++) {
             MixedRunsTest mixed = new MixedRunsTest(run);
             int call = run % 3 == 0 ? mixed.chain("run " + run) : 0;
