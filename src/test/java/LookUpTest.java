@@ -192,6 +192,15 @@ public final class LookUpTest {
         x.get(1, 1);
         x.size(1);
         dueFound("calls that only answer", x, 11, 2);
+        x = Books.threeClasses();
+        x.put(11, 1, 26);
+        x.lookUp(2, 71);
+        x.become(12, 13);
+        dueFound("the method changed places", x, 26, 2);
+        x.become(13, 12);
+        dueFound("the method changed places again", x, 26, 2);
+        x.make(13, 0, false);
+        dueFound("the method is made anew", x, 26, 2);
     }
 
     private static void classAbove() {

@@ -52,6 +52,7 @@ public final class ObjectsTest {
         y.make(1, 0, true);
         y.lookUp(2, 71);
         CHECKS.due("size beside another", x.size(1), 2);
+        CHECKS.due("method beside another", x.method(), 11);
         CHECKS.due("where beside another", x.where(), 2);
     }
 
